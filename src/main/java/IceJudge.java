@@ -28,9 +28,8 @@ public final class IceJudge {
     private static final int JUDGES_FIRST = 5;
     private static final int NO_GRADE = -100;
 
+    // Of the kinds, jump, spin and steps from 0 on, only this one has rules of its own.
     private static final int JUMP = 0;
-    private static final int SPIN = 1;
-    private static final int STEPS = 2;
 
     private static final int UNDER = 1;
     private static final int EDGE = 2;

@@ -126,6 +126,14 @@ public final class JudgesTest {
         Check.due("major(0)", 2, () -> y.major(0));
         Check.due("major(1)", 1, () -> y.major(1));
         Check.due("major(2)", 0, () -> y.major(2));
+        // p and q change sides: places p 2 0 1, q 1 1 2.
+        for (int judge = 0; judge < 3; judge++) {
+            int mark = y.mark(0, 0, judge);
+            y.show(0, 0, judge, y.mark(1, 0, judge));
+            y.show(1, 0, judge, mark);
+        }
+        Check.due("major(1) told anew", 0, () -> y.major(1));
+        Check.due("major(2) told anew", 1, () -> y.major(2));
     }
 
     private static void drawnPanels() {

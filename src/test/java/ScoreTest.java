@@ -14,6 +14,7 @@ public final class ScoreTest {
         components();
         totals();
         ruleSums();
+        rulesReadOften();
         ruleTests();
         ruleWords();
         ranks();
@@ -185,6 +186,19 @@ public final class ScoreTest {
         ruleDue("1000*1000+1-999*1000", 1000);
         ruleDue("0-1000*1000-5+1000*1000+5", 5);
         ruleDue("time*time*time", 343);
+        ruleDue("1+2*(1+2*(1+2*(1+2*(1+2*time))))", 31 + 32 * 7);
+        ruleDue("5 if 1=2 or 1=1 and 255<1+2*(1+2*(1+2*(1+2*(1+2*time))))", 0);
+        ruleDue("5 if 1=2 or 1=1 and 254<1+2*(1+2*(1+2*(1+2*(1+2*time))))", 5);
+    }
+
+    private static void rulesReadOften() {
+        String longRule = "deduct time" + "+1".repeat(280) + ";skater s;lasts 7;";
+        IceJudge x = new IceJudge();
+        for (int i = 0; i < 9; i++) {
+            Check.put(x, longRule);
+            Check.due("read()", 1, x::read);
+            Check.due("a long rule", 287, () -> x.rule(0, 0));
+        }
     }
 
     private static void ruleTests() {
