@@ -1145,7 +1145,6 @@ public final class IceJudge {
                 if (or && !and) {
                     // All that "and" joins behind the "or" has come.
                     rules.add(Rules.OR);
-                    or = false;
                 }
                 if (join == NONE) {
                     return true;
@@ -1178,7 +1177,6 @@ public final class IceJudge {
                 times = kind == '*';
                 if (!times && waiting != 0) {
                     event.rules.add(waiting);
-                    waiting = 0;
                 }
                 if (!times && kind != '+' && kind != '-') {
                     return true;

@@ -6,9 +6,35 @@ final class Check {
         long answer();
     }
 
+    interface Ask {
+        long of(IceJudge x);
+    }
+
     private static int wrong = 0;
+    private static String sentence = "";
 
     private Check() {
+    }
+
+    /** The words of the document that the answers behind it are about. */
+    static void says(String words) {
+        sentence = "\"" + words + "\": ";
+    }
+
+    /** One call on an object that has done nothing but read a text. */
+    static void asked(String text, String what, long want, Ask ask) {
+        IceJudge x = read(text);
+        due(what + " of " + text, want, () -> ask.of(x));
+    }
+
+    /** One call, on an object that has done nothing but read a text, that throws. */
+    static void refused(String text, String what, Class<? extends RuntimeException> want, Ask ask) {
+        IceJudge x = read(text);
+        throwsDue(what + " of " + text, want, () -> ask.of(x));
+    }
+
+    static int truth(boolean is) {
+        return is ? 1 : 0;
     }
 
     static void due(String what, long want, Call call) {
@@ -28,7 +54,7 @@ final class Check {
     static void report(String line) {
         wrong++;
         if (wrong <= 50) {
-            System.out.println(line);
+            System.out.println(sentence + line);
         }
     }
 
@@ -93,6 +119,16 @@ final class Check {
         if (!got.equals(want)) {
             report("write(" + skater + ") wrote " + got + ", due is " + want);
         }
+    }
+
+    /** How many bytes the tape has, without a change of it: only an end at all of them is true. */
+    static int taped(IceJudge x) {
+        for (int n = 600; n > 0; n--) {
+            if (x.end(n)) {
+                return n;
+            }
+        }
+        return 0;
     }
 
     static void finish() {

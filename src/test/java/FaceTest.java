@@ -8,26 +8,36 @@ import java.util.TreeSet;
 /** The public face is the document's, and nothing else of the class can be seen. */
 public final class FaceTest {
     private static final String[] METHODS = {
-        "int feed(int,int,int,int,int)", "boolean end(int)", "int read()", "int fault()",
-        "int name(boolean,int,int)", "int element(int,int)", "int attempt(int,int,int)",
-        "int grade(int,int,int)", "int mean(int,int)", "int mark(int,int,int)",
-        "int component(int,int)", "int total(int,int)", "int rule(int,int)", "int rank(int)",
-        "int ranked(int)", "int tell(int,int,int,int)", "int show(int,int,int,int)",
-        "boolean call(int,int,int,boolean)", "int base(int,int)", "int set(int,int)",
-        "int scratch(int,int)", "int undo()", "int bias(int)", "int odd()",
-        "int without(int,int)", "int sways(int)", "int alone(int,int)", "int place(int,int)",
-        "int majority(int)", "int major(int)", "int panel(int,int)", "int by(int,int)",
-        "int firsts(int,int)", "int needed(int,int)", "int raise(int,int,int)",
-        "int prime(int,int)", "int led(int)", "int doubt(int)", "int clean(int)",
-        "int write(int)", "int octet(int)", "int count(int)",
+        "int feed(int,int,int,int,int)", "boolean end(int)", "int read() Argument", "int fault()",
+        "int name(boolean,int,int) Index", "int element(int,int) Index Element", "int attempt(int,int,int) Index Element",
+        "int grade(int,int,int) Index", "int mean(int,int) Index", "int mark(int,int,int) Index",
+        "int component(int,int) Index", "int total(int,int) Index Element", "int rule(int,int) Index Element",
+        "int rank(int) Index", "int ranked(int)", "int tell(int,int,int,int) Index Argument",
+        "int show(int,int,int,int) Index Argument", "boolean call(int,int,int,boolean) Index Argument",
+        "int base(int,int) Index Argument", "int set(int,int) Element Argument", "int scratch(int,int) Index",
+        "int undo()", "int bias(int) Index", "int odd()", "int without(int,int) Index State", "int sways(int) Index State",
+        "int alone(int,int) Index", "int place(int,int) Index", "int majority(int) Index", "int major(int)",
+        "int panel(int,int) Argument", "int by(int,int) Index Argument", "int firsts(int,int) Index Argument",
+        "int needed(int,int) Index Argument", "int raise(int,int,int) Index State", "int prime(int,int) Index Argument",
+        "int led(int) Argument", "int doubt(int) Index", "int clean(int) Index", "int write(int) Index", "int octet(int)",
+        "int count(int)",
     };
+    private static final int CLASSES_MOST = 12;
+    private static final int FIELDS_MOST = 20;
 
     public static void main(String[] args) {
+        face();
+        insides();
+        Check.due("NONE", -1, () -> IceJudge.NONE);
+        Check.finish();
+    }
+
+    private static void face() {
         Set<String> want = new TreeSet<>(Set.of(METHODS));
         Set<String> got = new TreeSet<>();
         for (Method method : IceJudge.class.getDeclaredMethods()) {
             if (!Modifier.isPrivate(method.getModifiers())) {
-                got.add(method.getReturnType() + " " + method.getName() + parameters(method));
+                got.add(method.getReturnType() + " " + method.getName() + parameters(method) + exceptions(method));
             }
         }
         if (!want.equals(got)) {
@@ -48,8 +58,58 @@ public final class FaceTest {
         if (!Modifier.isPublic(modifiers) || !Modifier.isFinal(modifiers)) {
             Check.report("the class is not public and final");
         }
-        Check.due("NONE", -1, () -> IceJudge.NONE);
-        Check.finish();
+    }
+
+    /** LANGUAGE.md, rules 1, 2, 5 and 11, as far as the compiled classes show them. */
+    private static void insides() {
+        Class<?>[] inside = IceJudge.class.getDeclaredClasses();
+        if (inside.length + 1 > CLASSES_MOST) {
+            Check.report("there are " + (inside.length + 1) + " classes");
+        }
+        privateNames(IceJudge.class);
+        fields(IceJudge.class);
+        for (Class<?> type : inside) {
+            int modifiers = type.getModifiers();
+            if (Modifier.isPublic(modifiers) || Modifier.isProtected(modifiers) || !Modifier.isStatic(modifiers)) {
+                Check.report(type + " is not static and out of sight");
+            }
+            privateNames(type);
+            fields(type);
+        }
+    }
+
+    private static void privateNames(Class<?> type) {
+        for (Method method : type.getDeclaredMethods()) {
+            for (String face : METHODS) {
+                if (!Modifier.isPublic(method.getModifiers()) && face.contains(" " + method.getName() + "(")) {
+                    Check.report(type + " has a method with the name " + method.getName() + " of a public one");
+                }
+            }
+        }
+    }
+
+    private static void fields(Class<?> type) {
+        int own = 0;
+        for (Field field : type.getDeclaredFields()) {
+            boolean constant = Modifier.isStatic(field.getModifiers());
+            own += constant ? 0 : 1;
+            if (constant && !Modifier.isFinal(field.getModifiers())) {
+                Check.report(type + " has a static field that is not final: " + field.getName());
+            }
+        }
+        if (own > FIELDS_MOST) {
+            Check.report(type + " has " + own + " fields");
+        }
+    }
+
+    private static String exceptions(Method method) {
+        StringBuilder text = new StringBuilder();
+        for (Class<?> type : method.getExceptionTypes()) {
+            String name = type.getSimpleName();
+            text.append(name.equals("IllegalArgumentException") ? " Argument" : name.equals("IndexOutOfBoundsException") ? " Index"
+                    : name.equals("NoSuchElementException") ? " Element" : name.equals("IllegalStateException") ? " State" : " " + name);
+        }
+        return text.toString();
     }
 
     private static String parameters(Method method) {

@@ -7,6 +7,7 @@ public final class NewObjectTest {
     public static void main(String[] args) {
         counts();
         calls();
+        firstCalls();
         Check.finish();
     }
 
@@ -59,5 +60,53 @@ public final class NewObjectTest {
         Check.due("undo()", -1, x::undo);
         Check.due("octet(0)", -1, () -> x.octet(0));
         Check.due("read()", 0, x::read);
+    }
+
+    private static void fresh(String what, long want, Check.Ask ask) {
+        IceJudge x = new IceJudge();
+        Check.due(what + " as the first call", want, () -> ask.of(x));
+    }
+
+    private static void freshThrows(String what, Class<? extends RuntimeException> want, Check.Ask ask) {
+        IceJudge x = new IceJudge();
+        Check.throwsDue(what + " as the first call", want, () -> ask.of(x));
+    }
+
+    private static void firstCalls() {
+        Check.says("At first there is none of all (5 JUDGES, all others as without)");
+        fresh("feed(0, 0, 0, 0, 0)", 20, x -> x.feed(0, 0, 0, 0, 0));
+        fresh("end(0)", 1, x -> Check.truth(x.end(0)));
+        fresh("end(1)", 0, x -> Check.truth(x.end(1)));
+        fresh("end(-1)", 0, x -> Check.truth(x.end(-1)));
+        fresh("read()", 0, IceJudge::read);
+        fresh("fault()", -1, IceJudge::fault);
+        fresh("ranked(0)", -1, x -> x.ranked(0));
+        fresh("undo()", -1, IceJudge::undo);
+        fresh("bias(0)", 0, x -> x.bias(0));
+        fresh("bias(4)", 0, x -> x.bias(4));
+        freshThrows("bias(5)", INDEX, x -> x.bias(5));
+        fresh("odd()", 0, IceJudge::odd);
+        freshThrows("without(0, 0)", INDEX, x -> x.without(0, 0));
+        fresh("sways(4)", 0, x -> x.sways(4));
+        freshThrows("sways(5)", INDEX, x -> x.sways(5));
+        fresh("major(0)", -1, x -> x.major(0));
+        fresh("panel(0, 1)", 1, x -> x.panel(0, 1));
+        fresh("panel(9, 5)", 31, x -> x.panel(9, 5));
+        freshThrows("panel(9, 0)", IllegalArgumentException.class, x -> x.panel(9, 0));
+        freshThrows("panel(9, 6)", IllegalArgumentException.class, x -> x.panel(9, 6));
+        fresh("led(0)", -1, x -> x.led(0));
+        freshThrows("led(601)", IllegalArgumentException.class, x -> x.led(601));
+        fresh("octet(0)", -1, x -> x.octet(0));
+        freshThrows("set(7, 0)", NoSuchElementException.class, x -> x.set(7, 0));
+        freshThrows("set(3, 0)", IllegalArgumentException.class, x -> x.set(3, 0));
+        int[] first = {1, 120, 10, 2, 100, 100, 100};
+        for (int i = 0; i < first.length; i++) {
+            int what = i;
+            fresh("set(" + i + ", 1)", first[i], x -> x.set(what, 1));
+        }
+        for (int what = 20; what <= 25; what++) {
+            int w = what;
+            fresh("count(" + what + ")", -1, x -> x.count(w));
+        }
     }
 }
