@@ -47,6 +47,7 @@ public final class ActBoundsTest {
         actsBehindAnUndo();
         readForgets();
         readTakesThePlaceOfAll();
+        rulesInPlaceOfLongerOnes();
         wrongReadKeeps();
         questionsAreNone();
         gradesTold();
@@ -231,6 +232,23 @@ public final class ActBoundsTest {
                 Check.put(x, little);
                 Check.due("read() of little", 3, x::read);
                 State.same("little in place of much", x, littleOfNew);
+            }
+        }
+    }
+
+    private static void rulesInPlaceOfLongerOnes() {
+        Check.says("it is THE TEXT (in place of all; nothing can be undone)");
+        String[] texts = {"deduct 1+2*3-4+5 if 1<2 and 3>2;skater s;", "deduct 5;deduct 6;deduct 7;skater s;", "deduct 5;deduct 6;skater s;",
+            "deduct 1+2;deduct 6 if 1=1;skater s;", "deduct 5;deduct 6;deduct 7;deduct 8;skater s;"};
+        int[] want = {8, 18, 11, 9, 26};
+        for (int before = 0; before < texts.length; before++) {
+            for (int behind = 0; behind < texts.length; behind++) {
+                IceJudge x = Check.read(texts[before]);
+                for (int i = 0; i < 2; i++) {
+                    Check.put(x, texts[behind]);
+                    x.read();
+                    Check.due("DEDUCTED of " + texts[behind] + " behind " + texts[before], want[behind], () -> x.total(0, 3));
+                }
             }
         }
     }

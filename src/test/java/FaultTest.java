@@ -24,6 +24,8 @@ public final class FaultTest {
         fifthOpen();
         wordCutOff();
         firstOfSeveral();
+        firstOfTwoLines();
+        behindVotes();
         ofTheLatestRead();
         Check.finish();
     }
@@ -212,6 +214,30 @@ public final class FaultTest {
         Check.faultDue("skater abcdefg 5;", 7);
         Check.faultDue("do abcdefg 601 x;", 0);
         Check.faultDue("factor 301 301 301;", 7);
+    }
+
+    private static void firstOfTwoLines() {
+        Check.says("the first byte with which no such text goes on");
+        String[] cut = {"element", "element b", "element b jump", "judges", "drop", "half", "late", "repeat", "factor", "factor 1",
+            "factor 1 2", "deduct", "deduct 1+", "deduct 1*", "deduct (1", "deduct 1 if", "deduct 1 if 2", "deduct 1 if 2<",
+            "deduct 1 if 2<3 and", "deduct 1 if 2<3 or 4", "deduct 1 if 2<3+", "skater", "lasts", "do", "do a", "do a+", "do a 5",
+            "show", "show aaaaa", "show aaaaa aaaaa"};
+        for (String line : cut) {
+            int at = JUMP.length() + SKATER.length() + line.length();
+            Check.faultDue(JUMP + SKATER + line + ";", at);
+            Check.faultDue(JUMP + SKATER + line + ";?", at);
+            Check.faultDue(JUMP + SKATER + line + ";drop 4;", at);
+        }
+    }
+
+    private static void behindVotes() {
+        Check.says("the first byte with which no such text goes on");
+        char[] others = {'{', '}', (char) 255, 'A', '`', '?', '5'};
+        for (char other : others) {
+            Check.faultDue(JUMP + SKATER + "do a 5 fffff" + other, 38);
+            Check.faultDue(JUMP + SKATER + "show fffff" + other, 36);
+            Check.faultDue(JUMP + SKATER + "show fffff fffff fffff" + other, 48);
+        }
     }
 
     private static void ofTheLatestRead() {

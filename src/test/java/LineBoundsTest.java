@@ -125,6 +125,8 @@ public final class LineBoundsTest {
         Check.asked(ahead, "time without", 0, x -> x.rule(0, 0));
         Check.asked(ahead + "lasts 0;", "time", 0, x -> x.rule(0, 0));
         Check.asked(ahead + "lasts 600;", "time", 600, x -> x.rule(0, 0));
+        Check.asked("deduct time+5;" + SKATER, "time without, and 5", 5, x -> x.rule(0, 0));
+        Check.asked("deduct 7 if time=0;" + SKATER, "whether time is 0 without", 7, x -> x.rule(0, 0));
         Check.faultDue(ahead + "lasts 601;", ahead.length() + 6);
         Check.faultDue(ahead + "lasts;", ahead.length() + 5);
         Check.asked(ahead + "lasts 9;skater t;", "time of another one", 0, x -> x.rule(1, 0));

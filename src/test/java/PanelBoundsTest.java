@@ -14,12 +14,14 @@ public final class PanelBoundsTest {
         moreThanHalf();
         moreJudgesThere();
         lessTogether();
+        lessTogetherOfNine();
         lesserNumber();
         drawsWrapRound();
         drawsOfAll();
         sizesOfPanels();
         panelsOfNone();
         firstsOfAll();
+        sixByNine();
         Check.finish();
     }
 
@@ -156,6 +158,13 @@ public final class PanelBoundsTest {
         majorsDue("judges 3;skater s;show acc aaa aaa;skater t;show bab aaa aaa;skater u;show cba aaa aaa;", 0, 2, 1);
     }
 
+    private static void lessTogetherOfNine() {
+        Check.says("then with less of all its PLACES together");
+        // Places: s 1 0 0 1 2 2 1 1 1, t 0 1 1 0 1 0 0 2 2, u 2 2 2 2 0 1 2 0 0: s and t have 1 with seven, together 9 and 7.
+        majorsDue("judges 9;skater s;show bccbaabbb aaaaaaaaa aaaaaaaaa;skater t;show cbbcbccaa aaaaaaaaa aaaaaaaaa;"
+                + "skater u;show aaaacbacc aaaaaaaaa aaaaaaaaa;", 1, 0, 2);
+    }
+
     private static void lesserNumber() {
         Check.says("then with the lesser number");
         // Places: s 0 1, t 1 0: both 1 with two judges, together 1.
@@ -276,5 +285,44 @@ public final class PanelBoundsTest {
             int size = n;
             Check.asked(drop, "firsts(1, " + n + ")", want[n - 1], x -> x.firsts(1, size));
         }
+    }
+
+    private static void sixByNine() {
+        Check.says("skater: a SKATER (6 at most ..); judges: JUDGES 1 to 9");
+        StringBuilder told = new StringBuilder("judges 9;element a jump 5;");
+        for (int i = 0; i < 6; i++) {
+            String marks = String.valueOf((char) ('k' - i)).repeat(9);
+            told.append("skater ").append((char) ('a' + i)).append(";do a 1 aaaafkkkk;show ").append(marks).append(" aaaaaaaaa aaaaaaaaa;");
+        }
+        String text = told.toString();
+        int[] choose = {9, 36, 84, 126, 126, 84, 36, 9, 1};
+        for (int i = 0; i < 6; i++) {
+            int skater = i;
+            Check.asked(text, "rank", i, x -> x.rank(skater));
+            Check.asked(text, "ranked", i, x -> x.ranked(skater));
+            Check.asked(text, "majority", i, x -> x.majority(skater));
+            Check.asked(text, "major", i, x -> x.major(skater));
+            Check.asked(text, "TOTAL", 1005 - 100 * i, x -> x.total(skater, 4));
+            Check.asked(text, "alone", 1002 - 100 * i, x -> x.alone(skater, 0));
+            Check.asked(text, "alone", 1007 - 100 * i, x -> x.alone(skater, 8));
+            Check.asked(text, "place", i, x -> x.place(skater, 8));
+            Check.asked(text, "without", 1005 - 100 * i, x -> x.without(skater, 4));
+            for (int n = 1; n <= 9; n++) {
+                int size = n;
+                Check.asked(text, "firsts(" + i + ", " + n + ")", i == 0 ? choose[n - 1] : 0, x -> x.firsts(skater, size));
+            }
+        }
+        int[] bias = {-3000, -3000, -3000, -3000, 0, 3000, 3000, 3000, 3000};
+        for (int j = 0; j < 9; j++) {
+            int judge = j;
+            Check.asked(text, "bias(" + j + ")", bias[j], x -> x.bias(judge));
+            Check.asked(text, "sways(" + j + ")", 0, x -> x.sways(judge));
+        }
+        Check.asked(text, "odd()", 0, IceJudge::odd);
+        Check.asked(text, "led(1)", 0, x -> x.led(1));
+        Check.asked(text, "ranked(6)", NONE, x -> x.ranked(6));
+        Check.asked(text, "major(6)", NONE, x -> x.major(6));
+        Check.asked(text, "needed(0, 5)", -5, x -> x.needed(0, 5));
+        Check.asked(text, "needed(5, 0)", -100, x -> x.needed(5, 0));
     }
 }

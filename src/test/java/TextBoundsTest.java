@@ -6,6 +6,8 @@ public final class TextBoundsTest {
 
     public static void main(String[] args) {
         sixHundredBytes();
+        lastOfSixHundred();
+        firstBytesAlone();
         lines();
         lettersOfNames();
         lengthsOfNames();
@@ -40,6 +42,36 @@ public final class TextBoundsTest {
         Check.due("a 31st feed", NONE, () -> x.feed(0x20202020, 0x20202020, 0x20202020, 0x20202020, 0x20202020));
         Check.due("how many it has", 600, () -> Check.taped(x));
         Check.due("read()", 0, x::read);
+    }
+
+    private static void lastOfSixHundred() {
+        Check.says("THE TEXT has at most 600 bytes");
+        String[] ends = {"drop 1", "drop", "skater ab", "skater a ", "deduct 1+", "deduct 1 if 2", "deduct falls",
+            "judges 2;element a jump 5;skater s;do a 5 ff", "judges 2;skater s;show ff", "judges 2;element a jump 5;skater s;do a+"};
+        for (String end : ends) {
+            Check.faultDue(" ".repeat(600 - end.length()) + end, 600);
+        }
+    }
+
+    private static void firstBytesAlone() {
+        Check.says("The TAPE has its first n bytes alone");
+        String[] texts = {"drop 12;", "skater ab;", "drop 1;7", "deduct 1+2;"};
+        int[] first = {6, 8, 7, 9};
+        int[] fault = {6, 8, NONE, 9};
+        for (int i = 0; i < texts.length; i++) {
+            IceJudge x = new IceJudge();
+            Check.put(x, texts[i]);
+            int n = first[i];
+            Check.due("end(" + n + ") of " + texts[i], 1, () -> Check.truth(x.end(n)));
+            Check.outcome(x::read);
+            Check.due("fault() of the first " + n + " of " + texts[i], fault[i], x::fault);
+        }
+        IceJudge x = new IceJudge();
+        Check.put(x, "skater ab;");
+        x.end(8);
+        Check.due("feed behind the first 8", 28, () -> x.feed(0x633b2020, 0x20202020, 0x20202020, 0x20202020, 0x20202020));
+        Check.due("read()", 1, x::read);
+        Check.due("name(true, 0, 1)", 'c', () -> x.name(true, 0, 1));
     }
 
     private static void lines() {
